@@ -184,7 +184,11 @@ public final class SandGuards {
     }
 
     public int out(int post) {
-        return isPost(post) ? outlook.minutesToOut(plan, now, post) : NONE;
+        if (!isPost(post)) {
+            return NONE;
+        }
+        outlook.future.copyFrom(now);
+        return outlook.minutesToOut(plan, post, MOST_MINUTES);
     }
 
     public int slept() {
@@ -195,7 +199,7 @@ public final class SandGuards {
         if (what != 0 && what != 1) {
             return NONE;
         }
-        dryings.findFirst(plan, now);
+        dryings.findFirst(plan, now, dryings.asItIs(plan, now));
         return what == 0 ? dryings.firstPost : dryings.firstMinutes;
     }
 
@@ -223,11 +227,19 @@ public final class SandGuards {
     }
 
     public int never(int n) {
-        return n < 1 || n > MOST_MINUTES ? NONE : outlook.sleepless(plan, now, n);
+        if (n < 1 || n > MOST_MINUTES) {
+            return NONE;
+        }
+        outlook.goThrough(plan, now, n);
+        return outlook.sleepless(plan, now);
     }
 
     public int spread(int n) {
-        return n < 0 || n > MOST_MINUTES ? NONE : outlook.spreadOfSleep(plan, now, n);
+        if (n < 0 || n > MOST_MINUTES) {
+            return NONE;
+        }
+        outlook.goThrough(plan, now, n);
+        return outlook.spreadOfSleep(plan);
     }
 
     public int shakeWorst(int n, int what) {
@@ -246,7 +258,8 @@ public final class SandGuards {
         if (what == 0 || guard == NOT) {
             return guard;
         }
-        return outlook.minutesToFreed(plan, now, guard);
+        outlook.future.copyFrom(now);
+        return outlook.minutesToBed(plan, guard, MOST_MINUTES);
     }
 
     public int rests(int u, int n, int i) {
@@ -264,7 +277,8 @@ public final class SandGuards {
         if (!isGuard(guard) || n < 0 || n > MOST_MINUTES) {
             return NONE;
         }
-        return outlook.stationLater(plan, now, guard, n);
+        outlook.goThrough(plan, now, n);
+        return outlook.future.station[guard];
     }
 
     public int tell(int post, int minute) {
@@ -841,6 +855,7 @@ public final class SandGuards {
 
         /** Whether a glass runs alike while the DAMP is alike. */
         boolean isSteady;
+        boolean looksAtWet;
 
         private final int[] ops = new int[MOST_TOKENS];
         private final int[] operands = new int[MOST_TOKENS];
@@ -857,6 +872,7 @@ public final class SandGuards {
         void clear() {
             steps = 0;
             isSteady = true;
+            looksAtWet = false;
         }
 
         int add(int op, int operand) {
@@ -866,6 +882,7 @@ public final class SandGuards {
             ops[steps] = op;
             operands[steps] = operand;
             isSteady = isSteady && op != ABOVE && op != BELOW && op != MINUTE;
+            looksAtWet = looksAtWet || op == WET;
             return steps++;
         }
 
@@ -881,6 +898,7 @@ public final class SandGuards {
             System.arraycopy(other.operands, 0, operands, 0, other.steps);
             steps = other.steps;
             isSteady = other.isSteady;
+            looksAtWet = other.looksAtWet;
         }
 
         int value(int neck, int wet, int above, int below, int minute, int post) {
@@ -939,6 +957,8 @@ public final class SandGuards {
         int guards;
         int hours;
         int sleep = 60;
+        /** Whether it can make a difference that a POST is DRIED. */
+        boolean isDampFelt;
 
         /** What a steady law tells, by POST and place in wet. */
         private final int[] rates = new int[MOST_POSTS * WETS];
@@ -953,7 +973,9 @@ public final class SandGuards {
             law.add(Law.END, 0);
         }
 
+        /** What follows from all that was told. */
         void settle() {
+            isDampFelt = law.looksAtWet && hours > 0;
             if (!law.isSteady) {
                 return;
             }
@@ -973,6 +995,7 @@ public final class SandGuards {
             guards = other.guards;
             hours = other.hours;
             sleep = other.sleep;
+            isDampFelt = other.isDampFelt;
         }
 
         /** FLOW now, held. */
@@ -1076,23 +1099,22 @@ public final class SandGuards {
         /** How many of the next minutes, most at most, are sure to move nobody and to run evenly. */
         private int quietMinutes(Plan plan, int most) {
             int quiet = plan.hours > 1 ? Math.min(most, 60 - minute % 60) : most;
-            for (int post = 0; post < plan.posts; post++) {
+            int ahead = plan.posts - 1;
+            for (int post = 0; post < plan.posts && quiet > 0; post++) {
                 if (watcher[post] == NOT && lying > 0) {
                     return 0;
                 }
-                boolean waits = comer(post, plan.posts) != NOT;
+                boolean isAwaited = comer(post, ahead) != NOT;
+                ahead = post;
                 if (above[post] == 0) {
-                    if (waits) {
-                        return 0;
-                    }
-                    continue;
-                }
-                if (!plan.law.isSteady) {
+                    quiet = isAwaited ? 0 : quiet;
+                } else if (!plan.law.isSteady) {
                     return 0;
-                }
-                int flow = plan.flow(this, post);
-                if (waits && flow > 0) {
-                    quiet = Math.min(quiet, (above[post] - 1) / flow);
+                } else {
+                    int flow = plan.flow(this, post);
+                    if (isAwaited && flow > 0) {
+                        quiet = Math.min(quiet, (above[post] - 1) / flow);
+                    }
                 }
             }
             return quiet;
@@ -1112,10 +1134,12 @@ public final class SandGuards {
                 runDown(post, plan.flow(this, post));
             }
             comings = 0;
+            int ahead = plan.posts - 1;
             for (int post = 0; post < plan.posts; post++) {
                 if (above[post] == 0) {
-                    relieve(post, plan.posts);
+                    relieve(post, ahead);
                 }
+                ahead = post;
             }
             for (int post = 0; post < plan.posts && lying > 0; post++) {
                 if (watcher[post] == NOT) {
@@ -1141,33 +1165,27 @@ public final class SandGuards {
             minute += minutes;
         }
 
-        private static int postAhead(int post, int posts) {
-            return post == 0 ? posts - 1 : post - 1;
-        }
-
-        /** Who would come to a POST if its glass were out; NOT if nobody would. */
-        private int comer(int post, int posts) {
+        /** Who would come to a POST from the one ahead if its glass were out; NOT if nobody would. */
+        private int comer(int post, int ahead) {
             int tired = watcher[post];
-            int ahead = watcher[postAhead(post, posts)];
-            return tired == NOT || ahead == tired ? NOT : ahead;
+            return tired == NOT || watcher[ahead] == tired ? NOT : watcher[ahead];
         }
 
-        private void relieve(int post, int posts) {
-            int comer = comer(post, posts);
+        private void relieve(int post, int ahead) {
+            int comer = comer(post, ahead);
             if (comer == NOT) {
                 return;
             }
             int tired = watcher[post];
-            int left = postAhead(post, posts);
             above[post] = below[post];
             below[post] = 0;
             turned[post]++;
             comings |= 1 << post;
-            watcher[left] = NOT;
+            watcher[ahead] = NOT;
             stand(comer, post);
             // The first of BED is called before the tired one lies down: he may not be that one.
             if (lying > 0) {
-                stand(leaveBed(0), left);
+                stand(leaveBed(0), ahead);
             }
             beddings[tired]++;
             lieBehindAll(tired);
@@ -1293,17 +1311,20 @@ public final class SandGuards {
 
     /** What would be, gone through on a copy. */
     private static final class Outlook {
+        final Castle future = new Castle();
         int weakMinutes;
         int firstWeak;
         int worstPost;
         int worstGuards;
 
-        private final Castle future = new Castle();
+        void goThrough(Plan plan, Castle now, int minutes) {
+            future.copyFrom(now);
+            future.passMany(plan, minutes);
+        }
 
         /** One glass alone is enough: until it is out for the first time nobody comes to turn it. */
-        int minutesToOut(Plan plan, Castle now, int post) {
-            future.copyFrom(now);
-            for (int minutes = 0; minutes <= MOST_MINUTES; minutes++) {
+        int minutesToOut(Plan plan, int post, int most) {
+            for (int minutes = 0; minutes <= most; minutes++) {
                 if (future.above[post] == 0) {
                     return minutes;
                 }
@@ -1313,12 +1334,7 @@ public final class SandGuards {
             return NOT;
         }
 
-        int minutesToFreed(Plan plan, Castle now, int guard) {
-            future.copyFrom(now);
-            return minutesToBed(plan, guard, MOST_MINUTES);
-        }
-
-        private int minutesToBed(Plan plan, int guard, int most) {
+        int minutesToBed(Plan plan, int guard, int most) {
             int before = future.beddings[guard];
             for (int minutes = 0; minutes < most; ) {
                 minutes += Math.max(1, future.passSome(plan, most - minutes));
@@ -1329,19 +1345,32 @@ public final class SandGuards {
             return NOT;
         }
 
+        /** While his glass is not out at all it moves nobody: one such try in vain stands for all of them. */
         int fewestGrains(Plan plan, Castle now, int guard, int most) {
             int post = now.station[guard];
             if (post < 0) {
                 return NOT;
             }
+            boolean isWaitingVain = false;
             for (int grains = 0; grains <= now.above[post]; grains++) {
+                boolean waits = !plan.law.isSteady && isNotOut(plan, now, post, grains, most);
+                if (waits && isWaitingVain) {
+                    continue;
+                }
                 future.copyFrom(now);
                 future.above[post] -= grains;
                 if (minutesToBed(plan, guard, most) != NOT) {
                     return grains;
                 }
+                isWaitingVain = isWaitingVain || waits;
             }
             return NOT;
+        }
+
+        private boolean isNotOut(Plan plan, Castle now, int post, int grains, int most) {
+            future.copyFrom(now);
+            future.above[post] -= grains;
+            return minutesToOut(plan, post, most) == NOT;
         }
 
         void countWeak(Plan plan, Castle now, int most) {
@@ -1358,8 +1387,7 @@ public final class SandGuards {
             }
         }
 
-        int sleepless(Plan plan, Castle now, int minutes) {
-            goThrough(plan, now, minutes);
+        int sleepless(Plan plan, Castle now) {
             int bits = 0;
             for (int guard = 0; guard < plan.guards; guard++) {
                 bits |= future.slept[guard] == now.slept[guard] ? 1 << guard : 0;
@@ -1367,11 +1395,10 @@ public final class SandGuards {
             return bits;
         }
 
-        int spreadOfSleep(Plan plan, Castle now, int minutes) {
+        int spreadOfSleep(Plan plan) {
             if (plan.guards == 0) {
                 return NOT;
             }
-            goThrough(plan, now, minutes);
             int least = future.slept[0];
             int greatest = future.slept[0];
             for (int guard = 1; guard < plan.guards; guard++) {
@@ -1379,16 +1406,6 @@ public final class SandGuards {
                 greatest = Math.max(greatest, future.slept[guard]);
             }
             return greatest - least;
-        }
-
-        int stationLater(Plan plan, Castle now, int guard, int minutes) {
-            goThrough(plan, now, minutes);
-            return future.station[guard];
-        }
-
-        private void goThrough(Plan plan, Castle now, int minutes) {
-            future.copyFrom(now);
-            future.passMany(plan, minutes);
         }
 
         void findWorst(Plan plan, Castle now, int minutes) {
@@ -1417,7 +1434,7 @@ public final class SandGuards {
         int twoMinutes;
 
         private final Castle future = new Castle();
-        private int minutesAsItIs;
+        private int foundAsItIs;
         private boolean isAsItIsFound;
         private boolean isFirstFound;
         private boolean isTwoFound;
@@ -1431,31 +1448,34 @@ public final class SandGuards {
         int asItIs(Plan plan, Castle now) {
             if (!isAsItIsFound) {
                 future.copyFrom(now);
-                minutesAsItIs = soonest(plan, MOST_AHEAD);
+                foundAsItIs = soonest(plan, MOST_AHEAD);
                 isAsItIsFound = true;
             }
-            return minutesAsItIs;
+            return foundAsItIs;
         }
 
-        void findFirst(Plan plan, Castle now) {
+        void findFirst(Plan plan, Castle now, int minutesAsItIs) {
             if (isFirstFound) {
                 return;
             }
             firstPost = NOT;
-            firstMinutes = asItIs(plan, now);
-            for (int post = 0; post < plan.posts; post++) {
-                if (now.dried[post]) {
-                    continue;
-                }
-                future.copyFrom(now);
-                future.dried[post] = true;
-                int minutes = soonest(plan, mostThatIsSooner(firstMinutes));
-                if (minutes != NOT) {
-                    firstPost = post;
-                    firstMinutes = minutes;
+            firstMinutes = minutesAsItIs;
+            for (int post = 0; post < plan.posts && plan.isDampFelt; post++) {
+                if (!now.dried[post]) {
+                    tryOne(plan, now, post);
                 }
             }
             isFirstFound = true;
+        }
+
+        private void tryOne(Plan plan, Castle now, int post) {
+            future.copyFrom(now);
+            future.dried[post] = true;
+            int minutes = soonest(plan, mostThatIsSooner(firstMinutes));
+            if (minutes != NOT) {
+                firstPost = post;
+                firstMinutes = minutes;
+            }
         }
 
         void findTwo(Plan plan, Castle now) {
@@ -1464,10 +1484,13 @@ public final class SandGuards {
             }
             twoPosts = NOT;
             twoMinutes = NOT;
+            int tries = 0;
             for (int lesser = 0; lesser < plan.posts; lesser++) {
                 for (int other = lesser + 1; other < plan.posts; other++) {
-                    if (!now.dried[lesser] && !now.dried[other]) {
+                    // Where DAMP is not felt all pairs are alike, and the first of them is told.
+                    if (!now.dried[lesser] && !now.dried[other] && (tries == 0 || plan.isDampFelt)) {
                         tryTwo(plan, now, lesser, other);
+                        tries++;
                     }
                 }
             }
