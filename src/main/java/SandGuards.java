@@ -222,8 +222,12 @@ public final class SandGuards {
         if (n < 1 || n > MOST_MINUTES || what < 0 || what > 1) {
             return NONE;
         }
-        outlook.countWeak(plan, now, n);
-        return what == 0 ? outlook.weakMinutes : outlook.firstWeak;
+        // At the end of a MINUTE all EMPTY POSTS are filled, or nobody is left in BED: too few GUARDS, or none EMPTY.
+        boolean isWeak = plan.guards < plan.posts;
+        if (what == 0) {
+            return isWeak ? n : 0;
+        }
+        return isWeak ? 0 : NOT;
     }
 
     public int never(int n) {
@@ -523,6 +527,7 @@ public final class SandGuards {
         private static final int MOST_WAITING = 3 * (MOST_OPEN + 1);
 
         final Plan plan = new Plan();
+        /** Sand and places of the GUARDS are put in anew by each text; no minute ever goes by here. */
         final Castle castle = new Castle();
         int place;
 
@@ -543,7 +548,7 @@ public final class SandGuards {
         int readText(Tape tape) {
             tokens.cut(tape);
             plan.clear();
-            castle.clear();
+            castle.leaveAll();
             told = 0;
             token = 0;
             fault = 0;
@@ -862,13 +867,6 @@ public final class SandGuards {
         private final int[] stack = new int[DEEPEST];
         private int steps;
 
-        Law() {
-            steps = 2;
-            ops[0] = NECK;
-            ops[1] = END;
-            isSteady = true;
-        }
-
         void clear() {
             steps = 0;
             isSteady = true;
@@ -934,8 +932,8 @@ public final class SandGuards {
                         stack[top++] = left / right;
                         break;
                     case LESS:
-                        if (left >= right) {
-                            i = Math.max(i, operands[i] - 1);
+                        if (left >= right && operands[i] > i) {
+                            i = operands[i] - 1;
                         }
                         break;
                     default: return top > 0 ? stack[top - 1] : 0;
@@ -1027,39 +1025,22 @@ public final class SandGuards {
         final int[] bed = new int[MOST_GUARDS];
         int lying;
         int minute;
-        /** Bits of the POSTS to which one came in the latest minute. */
+        /** Bits of the POSTS to which one came in the minutes that passed last. */
         int comings;
 
         Castle() {
             leaveAll();
         }
 
-        void clear() {
-            for (int post = 0; post < MOST_POSTS; post++) {
-                above[post] = 0;
-                below[post] = 0;
-                dried[post] = false;
-                turned[post] = 0;
-                byHand[post] = 0;
-            }
-            for (int guard = 0; guard < MOST_GUARDS; guard++) {
-                slept[guard] = 0;
-                watch[guard] = 0;
-                beddings[guard] = 0;
-            }
-            leaveAll();
-            lying = 0;
-            minute = 0;
-            comings = 0;
-        }
-
-        private void leaveAll() {
+        /** Nobody is at a POST, nobody in BED. */
+        void leaveAll() {
             for (int post = 0; post < MOST_POSTS; post++) {
                 watcher[post] = NOT;
             }
             for (int guard = 0; guard < MOST_GUARDS; guard++) {
                 station[guard] = NOT;
             }
+            lying = 0;
         }
 
         void copyFrom(Castle other) {
@@ -1076,7 +1057,6 @@ public final class SandGuards {
             System.arraycopy(other.bed, 0, bed, 0, MOST_GUARDS);
             lying = other.lying;
             minute = other.minute;
-            comings = other.comings;
         }
 
         void passMany(Plan plan, int minutes) {
@@ -1312,8 +1292,6 @@ public final class SandGuards {
     /** What would be, gone through on a copy. */
     private static final class Outlook {
         final Castle future = new Castle();
-        int weakMinutes;
-        int firstWeak;
         int worstPost;
         int worstGuards;
 
@@ -1371,20 +1349,6 @@ public final class SandGuards {
             future.copyFrom(now);
             future.above[post] -= grains;
             return minutesToOut(plan, post, most) == NOT;
-        }
-
-        void countWeak(Plan plan, Castle now, int most) {
-            future.copyFrom(now);
-            weakMinutes = 0;
-            firstWeak = NOT;
-            for (int minutes = 0; minutes < most; ) {
-                int gone = Math.max(1, future.passSome(plan, most - minutes));
-                if (future.emptyPosts(plan.posts) > 0) {
-                    weakMinutes += gone;
-                    firstWeak = firstWeak == NOT ? minutes : firstWeak;
-                }
-                minutes += gone;
-            }
         }
 
         int sleepless(Plan plan, Castle now) {

@@ -38,6 +38,7 @@ public final class Promises {
         tampered();
         slots();
         counts();
+        asked();
         oddArguments();
         System.out.println(wrong == 0 ? "all promises hold" : wrong + " answers are not as due");
         if (wrong != 0) {
@@ -345,6 +346,7 @@ public final class Promises {
         flow("100 - (10 - 20)", 110);
         flow("1 + 2 * (3 + 4 * (5 + 6))", 95);
         flow("((((((neck))))))", 7);
+        flow(times("1 + 2 * (", 6) + "1 + 2 * post" + times(")", 6), 127);
         flow("9999", 500);
         flow("0 - 5", 0);
         flow("10 + (0 - 7) / 2", 7);
@@ -406,6 +408,9 @@ public final class Promises {
         is("wet again", x.post(0, 5), 3);
         is("no damp", told("post a 9 0 9; flow = wet;").post(0, 5), 0);
         is("no damp in the last row", told("post a 9 0 9; damp 1; flow = wet; damp;").post(0, 5), 0);
+        x = told("post a 999 0 9; flow = wet; damp 3 1;");
+        x.run(200);
+        glass(x, 0, 999 - 180 - 60 - 180 - 20, 440);
         x = told("post a 999 0 9; flow = wet; damp 3;");
         x.run(200);
         glass(x, 0, 399, 600);
@@ -836,6 +841,8 @@ public final class Promises {
         // behind 3 minutes w has slept 2 as it is; TURNED a is 0/3: it is out in each minute
         is("post", x.shakeWorst(3, 0), 1);
         is("guards", x.shakeWorst(3, 1), 0);
+        is("n 1", x.shakeWorst(1, 0), 0);
+        is("n 1", x.shakeWorst(1, 1), 0);
         is("n 0", x.shakeWorst(0, 0), NONE);
         is("n 1001", x.shakeWorst(1001, 0), NONE);
         is("what 2", x.shakeWorst(1, 2), NONE);
@@ -1017,6 +1024,18 @@ public final class Promises {
         is("20", x.count(10), 20);
         is("k 20", x.tampered(1, 20, NONE) >= 0, true);
         is("forget", x.forget(), 20);
+        x.tell(0, 0);
+        is("not in minute 0", x.tampered(5, 1, NONE), 0);
+        x.forget();
+        x.tell(2, 1);
+        is("what was forgotten is not due", x.tampered(5, 1, NONE), 11);
+        is("another most", x.tampered(6, 1, NONE), 13);
+        String eight = "";
+        for (int i = 0; i < 8; i++) {
+            eight += "post p" + (char) ('a' + i) + " 1 1 1;";
+        }
+        is("the most", told(eight).tampered(200, 0, NONE), 1601);
+        is("the last of them", told(eight).tampered(200, 0, 1600), 7200);
         is("no posts", new SandGuards().tampered(5, 0, NONE), 0);
         is("no posts", new SandGuards().tampered(0, 0, NONE), NONE);
         // a is out at the end of minute 1998 + more, and not again before 2000
@@ -1096,6 +1115,59 @@ public final class Promises {
         x.run(1);
         is("both slept 3", x.count(12), 2);
         is("sleep 0: all have", told("guard g; sleep 0;").count(12), 1);
+    }
+
+    /** What is asked twice is answered as it is each time. */
+    private static void asked() {
+        String wet = "post a 2 0 1; post b 2 0 1; guard g at a; guard h at b; guard i; damp 1; flow = neck - wet; sleep 3;";
+        SandGuards x = told(wet);
+        String wetAnswers = answers(x);
+        x.hold(0);
+        x.dry(0, true);
+        x.pinch(1, 3);
+        String dryAnswers = answers(x);
+        is("answers differ", dryAnswers.equals(wetAnswers), false);
+        x.undo();
+        x.undo();
+        is("as before", answers(x).equals(wetAnswers), true);
+        x.dry(0, true);
+        x.pinch(1, 3);
+        is("as then", answers(x).equals(dryAnswers), true);
+        x.restore(0);
+        is("as held", answers(x).equals(wetAnswers), true);
+        put(x, wet.replace("damp 1", "damp 0"));
+        x.read();
+        String other = answers(x);
+        is("as told", other.equals(answers(told(wet.replace("damp 1", "damp 0")))), true);
+        x.run(1);
+        is("a minute later", answers(x).equals(other), false);
+        x.tell(0, 1);
+        is("tampered", x.tampered(4, 1, NONE), 5);
+        x.forget();
+        x.tell(0, 2);
+        is("tampered", x.tampered(4, 1, NONE), 1);
+        put(x, wet);
+        x.read();
+        x.tell(0, 2);
+        is("tampered", x.tampered(4, 1, NONE), 0);
+        x = told(RING);
+        is("u 9", x.rests(9, 3, NONE), told(RING).rests(9, 3, NONE));
+        is("u 1", x.rests(1, 3, NONE), told(RING).rests(1, 3, NONE));
+        is("n 9", x.rests(1, 9, NONE), told(RING).rests(1, 9, NONE));
+        is("n 3", x.rests(1, 3, NONE), told(RING).rests(1, 3, NONE));
+    }
+
+    private static String answers(SandGuards x) {
+        StringBuilder all = new StringBuilder();
+        for (int i = 0; i < 2; i++) {
+            all.append(x.slept()).append(' ').append(x.dryFirst(0)).append(' ').append(x.dryFirst(1)).append(' ');
+            all.append(x.dryTwo(0)).append(' ').append(x.dryTwo(1)).append(' ').append(x.longest(1)).append(' ');
+            all.append(x.rests(1, 5, NONE)).append(' ').append(x.rests(2, 6, NONE)).append(' ');
+            for (int j = 0; j < 4; j++) {
+                all.append(x.rests(1, 5, j)).append(' ');
+            }
+        }
+        return all.toString();
     }
 
     /** Whatever the arguments, a call answers: NONE or false, and the castle stays as it is. */
