@@ -707,32 +707,14 @@ public final class Promises {
         x.dry(1, true);
         is("none is left", x.dryFirst(0), NOT);
         is("as it is", x.dryFirst(1), x.slept());
-        // b turns slower: a is better, though c is before in nothing
-        String three = "post a 9 0 1; post b 4 0 1; post c 6 0 1; guard g at a; guard h at b; guard i at c; guard j; guard k;"
-            + "damp 1; flow = neck - wet; sleep 4;";
-        x = told(three);
-        int least = NOT;
-        int best = NOT;
-        int leastTwo = NOT;
-        int bestTwo = NOT;
-        for (int p = 0; p < 3; p++) {
-            int by = byHand(three, p, NONE);
-            if (by != NOT && (least == NOT || by < least)) {
-                least = by;
-                best = p;
-            }
-            for (int q = p + 1; q < 3; q++) {
-                int both = byHand(three, p, q);
-                if (both != NOT && (leastTwo == NOT || both < leastTwo)) {
-                    leastTwo = both;
-                    bestTwo = 10 * p + q;
-                }
+        dryingsByHand("post a 9 0 1; post b 4 0 1; post c 6 0 1; guard g at a; guard h at b; guard i at c; guard j; guard k;"
+            + "damp 1; flow = neck - wet; sleep 4;");
+        for (int a0 = 1; a0 < 6; a0++) {
+            for (int b0 = 1; b0 < 6; b0++) {
+                dryingsByHand("post a " + a0 + " 0 1; post b " + b0 + " 0 1; post c 9 0 0; guard g at a; guard h at b;"
+                    + "guard i at c; guard j; damp 1; flow = neck + 1 - wet; sleep 2;");
             }
         }
-        is("the best", x.dryFirst(0), best);
-        is("its minutes", x.dryFirst(1), least);
-        is("the best two", x.dryTwo(0), bestTwo);
-        is("their minutes", x.dryTwo(1), leastTwo);
         // Nothing is sooner where damp is nothing; all pairs are alike.
         x = told("post a 0 0 1; post b 1 0 0; post c 1 0 0; guard g at a; guard h at c; guard i at b; sleep 1;");
         int asItIs = x.slept();
@@ -746,6 +728,34 @@ public final class Promises {
         is("without guards", x.dryTwo(1), 0);
         x.dry(0, true);
         is("the first two left", x.dryTwo(0), 12);
+    }
+
+    /** Tries each post and each pair and looks which is best. */
+    private static void dryingsByHand(String text) {
+        SandGuards x = told(text);
+        int least = byHand(text, NONE, NONE);
+        int best = NOT;
+        int leastTwo = NOT;
+        int bestTwo = NOT;
+        is("as it is: " + text, x.slept(), least);
+        for (int p = 0; p < x.count(0); p++) {
+            int by = byHand(text, p, NONE);
+            if (by != NOT && (least == NOT || by < least)) {
+                least = by;
+                best = p;
+            }
+            for (int q = p + 1; q < x.count(0); q++) {
+                int both = byHand(text, p, q);
+                if (both != NOT && (leastTwo == NOT || both < leastTwo)) {
+                    leastTwo = both;
+                    bestTwo = 10 * p + q;
+                }
+            }
+        }
+        is("the best: " + text, x.dryFirst(0), best);
+        is("its minutes: " + text, x.dryFirst(1), least);
+        is("the best two: " + text, x.dryTwo(0), bestTwo);
+        is("their minutes: " + text, x.dryTwo(1), leastTwo);
     }
 
     /** By when all have slept if these posts are really dried, minute by minute. */
