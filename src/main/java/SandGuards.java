@@ -88,7 +88,7 @@ public final class SandGuards {
             case 2: return now.watcher[post];
             case 3: return now.dried[post] ? 1 : 0;
             case 4: return now.turned[post];
-            case 5: return plan.flow(now, post);
+            case 5: return plan.flow(now, post, plan.hourOf(now.minute));
             case 6: return now.byHand[post];
             default: return NONE;
         }
@@ -523,7 +523,7 @@ public final class SandGuards {
         private static final int WRONG = 5;
         private static final int MOST_IFS = 4;
         private static final int MOST_OPEN = 6;
-        /** Of each ( and of the outside a ( itself, one + or -, one * or /. */
+        /** Of each ( and of the outside a ( itself, one + or -, one * or /; of units there are fewer. */
         private static final int MOST_WAITING = 3 * (MOST_OPEN + 1);
 
         final Plan plan = new Plan();
@@ -536,6 +536,8 @@ public final class SandGuards {
         private final long[] postNames = new long[MOST_POSTS];
         private final int[] waiting = new int[MOST_WAITING];
         private int waits;
+        private final int[] unitsMade = new int[MOST_WAITING];
+        private int units;
         private int told;
         private int token;
         private int fault;
@@ -676,28 +678,38 @@ public final class SandGuards {
             if (!takeSum()) {
                 return false;
             }
-            plan.law.add(Law.END, 0);
+            addEnd();
             return take(';');
         }
 
         private boolean takeIf() {
-            if (!take(Tokens.IF) || !takeSum() || !take('<') || !takeSum()) {
+            if (!take(Tokens.IF) || !takeSum() || !take('<')) {
                 return false;
             }
-            int less = plan.law.add(Law.LESS, 0);
-            if (!take(Tokens.THEN) || !takeSum() || !take(Tokens.ELSE)) {
+            int left = popUnit();
+            if (!takeSum() || !take(Tokens.THEN)) {
                 return false;
             }
-            plan.law.add(Law.END, 0);
+            int less = plan.law.addStep(Law.LESS, left, popUnit());
+            if (!takeSum() || !take(Tokens.ELSE)) {
+                return false;
+            }
+            addEnd();
             plan.law.aimHere(less);
             return true;
         }
 
-        /** An E: units go to the law at once, signs wait until what they join is there. */
+        private void addEnd() {
+            int last = popUnit();
+            plan.law.addStep(Law.END, last, last);
+        }
+
+        /** An E, whose number is then the only unit; signs wait until both units that they join are there. */
         private boolean takeSum() {
             int open = 0;
             boolean wantsUnit = true;
             waits = 0;
+            units = 0;
             for (int i = 0; i <= MOST_TOKENS; i++) {
                 int kind = kind();
                 if (wantsUnit && kind == '(') {
@@ -732,14 +744,28 @@ public final class SandGuards {
 
         private boolean addUnit(int kind) {
             if (kind == Tokens.INT) {
-                plan.law.add(Law.NUMBER, tokens.numbers[token]);
+                pushUnit(plan.law.useInt(tokens.numbers[token]));
                 return true;
             }
             if (kind >= Tokens.NECK && kind <= Tokens.POST) {
-                plan.law.add(Law.NECK + kind - Tokens.NECK, 0);
+                pushUnit(plan.law.useVariable(Law.NECK + kind - Tokens.NECK));
                 return true;
             }
             return false;
+        }
+
+        private void pushUnit(int unit) {
+            if (units >= 0 && units < MOST_WAITING) {
+                unitsMade[units++] = unit;
+            }
+        }
+
+        private int popUnit() {
+            if (units <= 0 || units > MOST_WAITING) {
+                return Law.NECK;
+            }
+            units--;
+            return unitsMade[units];
         }
 
         private void letWait(int sign) {
@@ -752,7 +778,9 @@ public final class SandGuards {
         private void release(int rank) {
             while (waits > 0 && rank(waiting[waits - 1]) >= rank) {
                 waits--;
-                plan.law.add(opOf(waiting[waits]), 0);
+                int right = popUnit();
+                int left = popUnit();
+                pushUnit(plan.law.addStep(opOf(waiting[waits]), left, right));
             }
         }
 
@@ -840,103 +868,119 @@ public final class SandGuards {
         }
     }
 
-    /** FLOW as steps that put numbers on a stack and join the two on top of it. */
+    /** FLOW as steps: each joins two numbers into one more, or goes on elsewhere, or ends with one of them. */
     private static final class Law {
-        static final int NUMBER = 0;
-        static final int NECK = 1;
-        static final int WET = 2;
-        static final int ABOVE = 3;
-        static final int BELOW = 4;
-        static final int MINUTE = 5;
-        static final int POST = 6;
-        static final int END = 7;
-        /** From here on a step takes the two numbers on top. */
-        static final int PLUS = 8;
-        static final int MINUS = 9;
-        static final int TIMES = 10;
-        static final int BY = 11;
-        static final int LESS = 12;
-        private static final int DEEPEST = 32;
+        /** The first numbers are the variables, behind them stand the INTS, then what the steps make, one each. */
+        static final int NECK = 0;
+        static final int WET = 1;
+        static final int ABOVE = 2;
+        static final int BELOW = 3;
+        static final int MINUTE = 4;
+        static final int POST = 5;
+        static final int PLUS = 0;
+        static final int MINUS = 1;
+        static final int TIMES = 2;
+        static final int BY = 3;
+        static final int LESS = 4;
+        static final int END = 5;
+        private static final int FIRST_INT = 6;
+        private static final int FIRST_MADE = FIRST_INT + MOST_TOKENS;
 
         /** Whether a glass runs alike while the DAMP is alike. */
         boolean isSteady;
         boolean looksAtWet;
 
         private final int[] ops = new int[MOST_TOKENS];
-        private final int[] operands = new int[MOST_TOKENS];
-        private final int[] stack = new int[DEEPEST];
+        private final int[] lefts = new int[MOST_TOKENS];
+        private final int[] rights = new int[MOST_TOKENS];
+        /** Where an if that does not hold goes on. */
+        private final int[] aims = new int[MOST_TOKENS];
+        private final int[] numbers = new int[FIRST_MADE + MOST_TOKENS];
         private int steps;
+        private int ints;
 
         void clear() {
             steps = 0;
+            ints = 0;
             isSteady = true;
             looksAtWet = false;
         }
 
-        int add(int op, int operand) {
-            if (steps >= MOST_TOKENS) {
-                return NONE;
-            }
-            ops[steps] = op;
-            operands[steps] = operand;
-            isSteady = isSteady && op != ABOVE && op != BELOW && op != MINUTE;
-            looksAtWet = looksAtWet || op == WET;
-            return steps++;
+        /** Where a variable stands, which the law looks at from now on. */
+        int useVariable(int variable) {
+            isSteady = isSteady && variable != ABOVE && variable != BELOW && variable != MINUTE;
+            looksAtWet = looksAtWet || variable == WET;
+            return variable;
         }
 
-        /** An if that does not hold goes on with the next step that is added. */
-        void aimHere(int less) {
-            if (less >= 0 && less < steps) {
-                operands[less] = steps;
+        /** Where an INT stands from now on. */
+        int useInt(int value) {
+            if (ints >= MOST_TOKENS) {
+                return NECK;
+            }
+            numbers[FIRST_INT + ints] = value;
+            ints++;
+            return FIRST_INT + ints - 1;
+        }
+
+        /** A step more: where the number that it makes stands. */
+        int addStep(int op, int left, int right) {
+            if (steps >= MOST_TOKENS) {
+                return NECK;
+            }
+            ops[steps] = op;
+            lefts[steps] = left;
+            rights[steps] = right;
+            steps++;
+            return FIRST_MADE + steps - 1;
+        }
+
+        /** The if whose number stands there goes on, if it does not hold, with the step that comes next. */
+        void aimHere(int made) {
+            if (made >= FIRST_MADE && made < FIRST_MADE + steps) {
+                aims[made - FIRST_MADE] = steps;
             }
         }
 
         void copyFrom(Law other) {
             System.arraycopy(other.ops, 0, ops, 0, other.steps);
-            System.arraycopy(other.operands, 0, operands, 0, other.steps);
+            System.arraycopy(other.lefts, 0, lefts, 0, other.steps);
+            System.arraycopy(other.rights, 0, rights, 0, other.steps);
+            System.arraycopy(other.aims, 0, aims, 0, other.steps);
+            System.arraycopy(other.numbers, 0, numbers, 0, FIRST_INT + other.ints);
             steps = other.steps;
+            ints = other.ints;
             isSteady = other.isSteady;
             looksAtWet = other.looksAtWet;
         }
 
         int value(int neck, int wet, int above, int below, int minute, int post) {
-            int top = 0;
+            int[] all = numbers;
+            all[NECK] = neck;
+            all[WET] = wet;
+            all[ABOVE] = above;
+            all[BELOW] = below;
+            all[MINUTE] = minute;
+            all[POST] = post;
             for (int i = 0; i < steps; i++) {
-                int op = ops[i];
-                int left = 0;
-                int right = 0;
-                if (op >= PLUS) {
-                    if (top < 2) {
-                        return 0;
-                    }
-                    right = stack[--top];
-                    left = stack[--top];
-                } else if (top >= DEEPEST) {
-                    return 0;
-                }
-                switch (op) {
-                    case NUMBER: stack[top++] = operands[i]; break;
-                    case NECK: stack[top++] = neck; break;
-                    case WET: stack[top++] = wet; break;
-                    case ABOVE: stack[top++] = above; break;
-                    case BELOW: stack[top++] = below; break;
-                    case MINUTE: stack[top++] = minute; break;
-                    case POST: stack[top++] = post; break;
-                    case PLUS: stack[top++] = left + right; break;
-                    case MINUS: stack[top++] = left - right; break;
-                    case TIMES: stack[top++] = left * right; break;
+                int left = all[lefts[i]];
+                int right = all[rights[i]];
+                switch (ops[i]) {
+                    case PLUS: all[FIRST_MADE + i] = left + right; break;
+                    case MINUS: all[FIRST_MADE + i] = left - right; break;
+                    case TIMES: all[FIRST_MADE + i] = left * right; break;
                     case BY:
                         if (right == 0) {
                             return 0;
                         }
-                        stack[top++] = left / right;
+                        all[FIRST_MADE + i] = left / right;
                         break;
                     case LESS:
-                        if (left >= right && operands[i] > i) {
-                            i = operands[i] - 1;
+                        if (left >= right && aims[i] > i) {
+                            i = aims[i] - 1;
                         }
                         break;
-                    default: return top > 0 ? stack[top - 1] : 0;
+                    default: return left;
                 }
             }
             return 0;
@@ -967,8 +1011,7 @@ public final class SandGuards {
             hours = 0;
             sleep = 60;
             law.clear();
-            law.add(Law.NECK, 0);
-            law.add(Law.END, 0);
+            law.addStep(Law.END, Law.NECK, Law.NECK);
         }
 
         /** What follows from all that was told. */
@@ -996,17 +1039,25 @@ public final class SandGuards {
             isDampFelt = other.isDampFelt;
         }
 
-        /** FLOW now, held. */
-        int flow(Castle castle, int post) {
+        /** The place in wet of a minute's DAMP. */
+        int hourOf(int minute) {
+            return hours > 0 ? 1 + minute / 60 % hours : 0;
+        }
+
+        /** FLOW now, held; the hour is the minute's place in wet. */
+        int flow(Castle castle, int post, int hour) {
             int all = castle.above[post];
             if (all == 0) {
                 return 0;
             }
-            int hour = castle.dried[post] || hours == 0 ? 0 : 1 + castle.minute / 60 % hours;
+            int damp = castle.dried[post] ? 0 : hour;
             int told = law.isSteady
-                ? rates[post * WETS + hour]
-                : law.value(neck[post], wet[hour], all, castle.below[post], castle.minute, post);
-            return Math.max(0, Math.min(all, told));
+                ? rates[post * WETS + damp]
+                : law.value(neck[post], wet[damp], all, castle.below[post], castle.minute, post);
+            if (told < 0) {
+                return 0;
+            }
+            return told < all ? told : all;
         }
     }
 
@@ -1025,8 +1076,10 @@ public final class SandGuards {
         final int[] bed = new int[MOST_GUARDS];
         int lying;
         int minute;
-        /** Bits of the POSTS to which one came in the minutes that passed last. */
+        /** Bits of the POSTS to which one came in the latest minute. */
         int comings;
+
+        private final int[] flows = new int[MOST_POSTS];
 
         Castle() {
             leaveAll();
@@ -1065,68 +1118,76 @@ public final class SandGuards {
             }
         }
 
-        /** One MINUTE goes by, or quiet ones, most at most, at once: how many did (1 and more). */
+        /**
+         * Minutes go by, most at most: quiet ones, in which nobody can move and sand runs evenly, and behind them
+         * one in which somebody may come: how many did (1 and more).
+         */
         int passSome(Plan plan, int most) {
-            int quiet = quietMinutes(plan, most);
-            if (quiet > 0) {
-                passQuiet(plan, quiet);
-                return quiet;
+            int limit = plan.hours > 1 ? Math.min(most, 60 - minute % 60) : most;
+            int quiet = lookAhead(plan, limit);
+            int minutes = Math.min(quiet + 1, limit);
+            for (int post = 0; post < plan.posts; post++) {
+                if (flows[post] > 0) {
+                    long sand = (long) flows[post] * minutes;
+                    runDown(post, (int) Math.min(sand, above[post]));
+                }
             }
-            passOne(plan);
-            return 1;
+            comings = 0;
+            if (quiet > 0) {
+                countMinutes(plan.guards, quiet);
+            }
+            if (minutes > quiet) {
+                relieveAll(plan.posts);
+                fillAll(plan.posts);
+                countMinutes(plan.guards, 1);
+            }
+            return minutes;
         }
 
-        /** How many of the next minutes, most at most, are sure to move nobody and to run evenly. */
-        private int quietMinutes(Plan plan, int most) {
-            int quiet = plan.hours > 1 ? Math.min(most, 60 - minute % 60) : most;
+        /** Finds what flows now: for how many of the next minutes, limit at most, it is sure that nobody moves. */
+        private int lookAhead(Plan plan, int limit) {
+            int quiet = limit;
+            int hour = plan.hourOf(minute);
             int ahead = plan.posts - 1;
-            for (int post = 0; post < plan.posts && quiet > 0; post++) {
-                if (watcher[post] == NOT && lying > 0) {
-                    return 0;
+            for (int post = 0; post < plan.posts; post++) {
+                flows[post] = plan.flow(this, post, hour);
+                if (quiet > 0) {
+                    quiet = Math.min(quiet, quietAt(post, ahead, plan.law.isSteady));
                 }
-                boolean isAwaited = comer(post, ahead) != NOT;
                 ahead = post;
-                if (above[post] == 0) {
-                    quiet = isAwaited ? 0 : quiet;
-                } else if (!plan.law.isSteady) {
-                    return 0;
-                } else {
-                    int flow = plan.flow(this, post);
-                    if (isAwaited && flow > 0) {
-                        quiet = Math.min(quiet, (above[post] - 1) / flow);
-                    }
-                }
             }
             return quiet;
         }
 
-        private void passQuiet(Plan plan, int minutes) {
-            for (int post = 0; post < plan.posts; post++) {
-                long sand = (long) plan.flow(this, post) * minutes;
-                runDown(post, (int) Math.min(sand, above[post]));
+        private int quietAt(int post, int ahead, boolean isSteady) {
+            if (above[post] > 0 && !isSteady || watcher[post] == NOT && lying > 0) {
+                return 0;
             }
-            comings = 0;
-            countMinutes(plan.guards, minutes);
+            if (comer(post, ahead) == NOT) {
+                return Integer.MAX_VALUE;
+            }
+            if (flows[post] == 0) {
+                return above[post] == 0 ? 0 : Integer.MAX_VALUE;
+            }
+            return (above[post] - 1) / flows[post];
         }
 
-        private void passOne(Plan plan) {
-            for (int post = 0; post < plan.posts; post++) {
-                runDown(post, plan.flow(this, post));
-            }
-            comings = 0;
-            int ahead = plan.posts - 1;
-            for (int post = 0; post < plan.posts; post++) {
+        private void relieveAll(int posts) {
+            int ahead = posts - 1;
+            for (int post = 0; post < posts; post++) {
                 if (above[post] == 0) {
                     relieve(post, ahead);
                 }
                 ahead = post;
             }
-            for (int post = 0; post < plan.posts && lying > 0; post++) {
+        }
+
+        private void fillAll(int posts) {
+            for (int post = 0; post < posts && lying > 0; post++) {
                 if (watcher[post] == NOT) {
                     stand(leaveBed(0), post);
                 }
             }
-            countMinutes(plan.guards, 1);
         }
 
         void runDown(int post, int sand) {
@@ -1306,7 +1367,7 @@ public final class SandGuards {
                 if (future.above[post] == 0) {
                     return minutes;
                 }
-                future.runDown(post, plan.flow(future, post));
+                future.runDown(post, plan.flow(future, post, plan.hourOf(future.minute)));
                 future.minute++;
             }
             return NOT;
@@ -1631,15 +1692,23 @@ public final class SandGuards {
             return minutes;
         }
 
+        /** Whether one was due in the minutes before the last one, when nobody came, or in that one, and did not come. */
+        private boolean isMissed(int first, int last) {
+            for (int minute = first; minute < last && minute <= MOST_MINUTES; minute++) {
+                if (due[minute] != 0) {
+                    return true;
+                }
+            }
+            return last <= MOST_MINUTES && (due[last] & ~future.comings) != 0;
+        }
+
         private boolean comesAsDue(Plan plan, int minutes) {
             for (int minute = 0; minute < minutes; ) {
                 int gone = Math.max(1, future.passSome(plan, minutes - minute));
-                for (int i = minute; i < minute + gone && i <= MOST_MINUTES; i++) {
-                    if ((due[i] & ~future.comings) != 0) {
-                        return false;
-                    }
-                }
                 minute += gone;
+                if (isMissed(minute - gone, minute - 1)) {
+                    return false;
+                }
             }
             return true;
         }
