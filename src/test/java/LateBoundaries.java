@@ -102,6 +102,12 @@ public final class LateBoundaries extends Checks {
         is("minute 2000", x.tampered(9, 1, NONE), 1);
         is("two more", x.tampered(9, 1, 0), 2);
         x.forget();
+        x.tell(1, 2000);
+        is("b is never turned", x.tampered(9, 1, NONE), 0);
+        x.forget();
+        x.tell(0, 2000);
+        is("minute 2000 again", x.tampered(9, 1, NONE), 1);
+        x.forget();
         x.tell(0, 1998);
         is("minute 1998: as it was, b as it may", x.tampered(9, 1, NONE), 10);
         x.forget();

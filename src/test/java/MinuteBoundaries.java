@@ -17,6 +17,7 @@ public final class MinuteBoundaries extends Checks {
         counted();
         emptyIsFilled();
         flowWraps();
+        flowInBrackets();
         flowDivides();
         firstIfThatHolds();
         dividedByZero();
@@ -283,6 +284,22 @@ public final class MinuteBoundaries extends Checks {
         flow("8192*8192*63/8192/8192+2", 1);
     }
 
+    private static void flowInBrackets() {
+        sentence("II: FLOW: E, PART, UNIT, six ( within one another");
+        flow("((((((neck))))))", 7);
+        flow(times("1+2*(", 6) + "1+2*post" + times(")", 6), 127);
+        flow(times("8-1*(", 6) + "3-0*9" + times(")", 6), 3);
+        flow("2+3*4-10/4", 12);
+        flow("(2+3)*4", 20);
+        flow("100-10-20-30", 40);
+        flow("100-(10-20)", 110);
+        flow("400/10/4", 10);
+        flow("400/(10/4)", 200);
+        flow("400/10*4", 160);
+        flow("7/2*2", 6);
+        flow("wet*100+neck*10+(above-below)/2", 70 + 430);
+    }
+
     private static void flowDivides() {
         sentence("II: / rounded towards 0");
         flow("7/2", 3);
@@ -363,6 +380,13 @@ public final class MinuteBoundaries extends Checks {
         glass(x, 0, 939, 60);
         x.run(1380);
         is("hour 23 again", x.post(0, 5), 1);
+        x = told("post a 999 0 0;flow=wet;damp 3 1;");
+        x.run(30);
+        glass(x, 0, 999 - 90, 90);
+        x.run(60);
+        glass(x, 0, 999 - 180 - 30, 210);
+        x.run(110);
+        glass(x, 0, 999 - 180 - 60 - 180 - 20, 440);
         x = told("post a 999 0 0;flow=wet;damp 2;");
         x.run(60);
         is("one number for all hours", x.post(0, 5), 2);
@@ -415,6 +439,17 @@ public final class MinuteBoundaries extends Checks {
         }
         x = told("post a 99 0 0;flow=minute;");
         is("minute 0", x.post(0, 5), 0);
+        for (int grains = 1; grains <= 2; grains++) {
+            SandGuards y = told("post a " + grains + " 0 0;flow=if minute<5 then 0 else above;");
+            y.run(5);
+            glass(y, 0, grains, 0);
+            y.run(1);
+            glass(y, 0, 0, grains);
+            y.undo();
+            y.undo();
+            y.run(6);
+            glass(y, 0, 0, grains);
+        }
         x.run(4);
         is("minute 4", x.post(0, 5), 4);
         glass(x, 0, 99 - 1 - 2 - 3, 6);

@@ -8,6 +8,7 @@ public final class OutlookBoundaries extends Checks {
 
     public static void main(String[] args) {
         nothingHappens();
+        ofTheCastleNow();
         outMinutes();
         outBeforeOneComes();
         outRefused();
@@ -40,6 +41,7 @@ public final class OutlookBoundaries extends Checks {
         freedMinutes();
         longestRefused();
         restsSets();
+        restsByHand();
         restsGrains();
         restsUpTo();
         restsMinutes();
@@ -76,6 +78,56 @@ public final class OutlookBoundaries extends Checks {
         same("the castle", state(x), before);
         is("the slot", x.restore(1), true);
         same("the castle held", sandAndGuards(x), before.substring(before.indexOf(';') + 1));
+    }
+
+    /** What was asked of the castle as it was is asked anew of the castle as it is. */
+    private static void ofTheCastleNow() {
+        sentence("III: What would be: from now on, whatever was asked ahead");
+        String text = "post a 2 0 1;post b 3 0 1;guard g at a;guard h at b;guard i;damp 1;flow=1-wet;sleep 3;";
+        SandGuards x = told(text);
+        String wet = outlooks(x);
+        x.hold(0);
+        x.dry(0, true);
+        String dry = outlooks(x);
+        same("DRIED", dry, outlooks(driedAndPinched(text, 0)));
+        x.pinch(0, 4);
+        String more = outlooks(x);
+        same("with a PINCH", more, outlooks(driedAndPinched(text, 4)));
+        is("they differ", wet.equals(dry) || dry.equals(more), false);
+        x.undo();
+        same("undone", outlooks(x), dry);
+        x.pinch(0, 4);
+        same("done again", outlooks(x), more);
+        x.restore(0);
+        same("restored", outlooks(x), wet);
+        put(x, text.replace("damp 1", "damp 0"));
+        is("read()", x.read(), 0);
+        same("told anew", outlooks(x), outlooks(told(text.replace("damp 1", "damp 0"))));
+        is("read()", x.read(), 0);
+        same("nothing told", outlooks(x), outlooks(new SandGuards()));
+    }
+
+    private static SandGuards driedAndPinched(String text, int grains) {
+        SandGuards x = told(text);
+        x.dry(0, true);
+        x.pinch(0, grains);
+        return x;
+    }
+
+    /** Asked twice over, and with other numbers between; what is asked last is what the next one asks first. */
+    private static String outlooks(SandGuards x) {
+        StringBuilder all = new StringBuilder();
+        for (int again = 0; again < 2; again++) {
+            all.append(x.rests(4, 9, NONE)).append(',').append(x.rests(4, 9, 0)).append(',');
+            all.append(x.slept()).append(',').append(x.dryFirst(0)).append(',').append(x.dryFirst(1)).append(',');
+            all.append(x.dryTwo(0)).append(',').append(x.dryTwo(1)).append(',').append(x.out(0)).append(',');
+            all.append(x.longest(1)).append(',').append(x.never(4)).append(',').append(x.spread(5)).append(',');
+            all.append(x.rests(1, 3, NONE)).append(',').append(x.rests(1, 3, 0)).append(',').append(x.rests(1, 3, 1)).append(',');
+            all.append(x.rests(1, 9, NONE)).append(',').append(x.rests(4, 9, NONE)).append(',').append(x.rests(4, 9, 0)).append(';');
+        }
+        String once = all.substring(0, all.indexOf(";") + 1);
+        same("asked twice", all.toString(), once + once);
+        return once;
     }
 
     private static void outMinutes() {
@@ -194,6 +246,18 @@ public final class OutlookBoundaries extends Checks {
         dries("post a 4 2 1;post b 1 2 2;post c 1 0 2;" + WET + "1;", 5, new int[] {8, 4, 5}, 1, 4);
         dries("post a 4 1 1;post b 2 2 2;post c 2 0 2;" + WET + "1;", 6, new int[] {8, 6, 4}, 2, 4);
         dries("post a 4 1 1;post b 1 0 2;post c 2 0 1;" + WET + "1;", NOT, new int[] {5, NOT, 4}, 2, 4);
+        // a law that looks at wet and at nothing else
+        SandGuards one = told("post a 9 0 1;post b 2 0 1;guard g at a;guard h at b;guard i;damp 1;flow=1-wet;sleep 1;");
+        is("as it is", one.slept(), NOT);
+        is("b: h and g sleep from the 2nd and the 4th minute on", one.dryFirst(0), 1);
+        is("behind 4 minutes", one.dryFirst(1), 4);
+        SandGuards eight = told(posts(8) + guardsAtAll() + "guard x;damp 1;flow=if post<7 then 0 else 1-wet;sleep 0;");
+        is("nothing is sooner", eight.dryFirst(0), NOT);
+        is("now", eight.dryFirst(1), 0);
+        eight = told(posts(8) + guardsAtAll() + "guard x;damp 1;flow=if post<7 then 0 else 1-wet;sleep 1;");
+        is("some never sleep", eight.dryFirst(0), NOT);
+        eight = told(posts(8) + guards(1) + "guard h at ph;guard k at pg;damp 1;flow=wet;sleep 0;");
+        is("nothing is sooner", eight.dryFirst(0), NOT);
         SandGuards x = told("post a 1 2 2;post b 1 0 2;post c 2 1 1;" + WET + "2;");
         x.dry(0, true);
         is("a is DRIED: post", x.dryFirst(0), NOT);
@@ -348,13 +412,18 @@ public final class OutlookBoundaries extends Checks {
         is("7 of them run, no more and no fewer", told(stuck + "flow=if above<7 then 0 else if 7<above then 0 else above;").bribe(0, 1), 2);
         is("9 of them run", told(stuck + "flow=if above<9 then 0 else above;").bribe(0, 1), 0);
         is("1 of them runs", told(stuck + "flow=if 1<above then 0 else above;").bribe(0, 1), 8);
-        // h goes on to a, and to BED from there: nothing is to be taken from b.
-        x = told("post a 1 5 1;post b 9 0 0;guard g at a;guard h at b;guard i;");
-        is("within 7", x.bribe(1, 7), 0);
-        // With b empty he goes back to it in the same minute, and to BED from there in the next one.
-        is("within 6", x.bribe(1, 6), 9);
-        is("within 2", x.bribe(1, 2), 9);
-        is("within 1", x.bribe(1, 1), NOT);
+        for (String law : new String[] {"", "flow=neck+0*minute;", "flow=neck+above-above;"}) {
+            // h goes on to a, and to BED from there: nothing is to be taken from b.
+            x = told("post a 1 5 1;post b 9 0 0;guard g at a;guard h at b;guard i;" + law);
+            is("within 7", x.bribe(1, 7), 0);
+            // With b empty he goes back to it in the same minute, and to BED from there in the next one.
+            is("within 6", x.bribe(1, 6), 9);
+            is("within 2", x.bribe(1, 2), 9);
+            is("within 1", x.bribe(1, 1), NOT);
+            // g goes on to b in the first minute, and stays there, unless a is out then: he goes to BED ahead of that.
+            x = told("post a 3 0 1;post b 1 49 1;post c 9 0 0;guard g at a;guard h at b;guard i at c;guard j;" + law);
+            is("two", x.bribe(0, 5), 2);
+        }
     }
 
     private static void bribeWithin() {
@@ -470,10 +539,18 @@ public final class OutlookBoundaries extends Checks {
         is("in all", x.spread(2000), 2005);
         is("one guard", told("guard g;").spread(2000), 0);
         is("all alike", told(guards(12)).spread(2000), 0);
-        x = told("post a 9 0 0;guard g;guard h;guard i;guard j;");
-        is("the first, who fills a", x.spread(9), 9);
-        x = told("post a 9 0 0;guard g;guard h;guard i;guard j at a;");
-        is("the last", x.spread(9), 9);
+        for (int one = 0; one < 4; one++) {
+            StringBuilder awake = new StringBuilder("post a 9 0 0;");
+            StringBuilder asleep = new StringBuilder("post a 9 0 0;post b 9 0 0;post c 9 0 0;");
+            char post = 'a';
+            for (int guard = 0; guard < 4; guard++) {
+                String name = "guard g" + (char) ('a' + guard);
+                awake.append(name).append(guard == one ? " at a;" : ";");
+                asleep.append(name).append(guard == one ? ";" : " at " + post++ + ";");
+            }
+            is("he alone is at a post: " + one, told(awake.toString()).spread(9), 9);
+            is("he alone sleeps: " + one, told(asleep.toString()).spread(9), 9);
+        }
     }
 
     private static void spreadRefused() {
@@ -620,6 +697,52 @@ public final class OutlookBoundaries extends Checks {
         is("no more", x.rests(1, 1, 256), NONE);
     }
 
+    private static void restsByHand() {
+        sentence("III: RESTS: no such GUARD by himself, doing the other thing, would have slept more: each set tried by hand");
+        String[] texts = {"post a 4 0 1;post b 2 0 1;guard g at a;guard h at b;guard i;", "post a 2 0 1;post b 9 0 1;guard g at a;guard h at b;guard i;",
+            "post a 4 0 1;post b 2 3 1;post c 7 1 2;guard g at a;guard i;guard h at b;guard k at c;guard m;",
+            "post a 4 0 1;post b 2 3 1;post c 7 1 2;guard g at a;guard h at b;", "post a 1 2 1;post b 1 1 1;post c 2 1 1;guard h at c;guard g at b;guard i;"};
+        for (String text : texts) {
+            for (int n = 1; n <= 12; n++) {
+                tryRests(text, 1 + n % 4, n);
+            }
+        }
+    }
+
+    private static void tryRests(String text, int u, int n) {
+        SandGuards x = told(text);
+        int posts = x.count(0);
+        int[][] sleeps = new int[1 << posts][];
+        for (int set = 0; set < 1 << posts; set++) {
+            SandGuards y = told(text);
+            boolean can = true;
+            for (int post = 0; post < posts; post++) {
+                if ((set >> post & 1) == 1) {
+                    can &= y.post(post, 2) != NOT;
+                    y.pinch((post + 1) % posts, u);
+                }
+            }
+            y.run(n);
+            sleeps[set] = can ? new int[y.count(1)] : null;
+            for (int guard = 0; can && guard < y.count(1); guard++) {
+                sleeps[set][guard] = y.guard(guard, 1);
+            }
+        }
+        int found = 0;
+        for (int set = 0; set < 1 << posts; set++) {
+            boolean rests = sleeps[set] != null;
+            for (int post = 0; post < posts && rests; post++) {
+                int guard = x.post(post, 2);
+                rests = guard == NOT || sleeps[set ^ 1 << post][guard] <= sleeps[set][guard];
+            }
+            if (rests) {
+                is("the " + found + "th of rests(" + u + ", " + n + "): " + text, x.rests(u, n, found), set);
+                found++;
+            }
+        }
+        is("rests(" + u + ", " + n + "): " + text, x.rests(u, n, NONE), found);
+    }
+
     private static String guardsAtAll() {
         StringBuilder text = new StringBuilder();
         for (int i = 0; i < 8; i++) {
@@ -673,6 +796,11 @@ public final class OutlookBoundaries extends Checks {
         is("in the first", told(at(LATE, 0)).rests(1, 1, NONE), 3);
         is("in the second, behind 1", told(at(LATE, 1)).rests(1, 1, NONE), 4);
         is("in the second, behind 2", told(at(LATE, 1)).rests(1, 2, NONE), 3);
+        SandGuards x = told(at(LATE, 1));
+        for (int again = 0; again < 2; again++) {
+            is("behind 1", x.rests(1, 1, NONE), 4);
+            is("behind 2", x.rests(1, 2, NONE), 3);
+        }
         is("in the 300th", told(at(LATE, 299)).rests(1, 300, NONE), 3);
         is("in the 300th, behind 299", told(at(LATE, 299)).rests(1, 299, NONE), 4);
         is("in the 301st", told(at(LATE, 300)).rests(1, 300, NONE), 4);

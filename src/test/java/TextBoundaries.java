@@ -35,6 +35,7 @@ public final class TextBoundaries extends Checks {
         textsEnd();
         ofOnePlaceTheLeast();
         mostTokens();
+        eachTokenTooMany();
         roomAtFirstToken();
         fifthIf();
         seventhBracket();
@@ -44,6 +45,7 @@ public final class TextBoundaries extends Checks {
         unknownPosts();
         wrongNumbers();
         faultChangesNothing();
+        faultIsForgotten();
         textInPlace();
         end();
     }
@@ -111,6 +113,15 @@ public final class TextBoundaries extends Checks {
         is("back(7)", x.back(7), 9);
         is("\"sleep 12;\"", x.read(), 0);
         is("sleep", x.count(5), 12);
+        // What went is not looked at: four digits, eight letters at the end are TOKENS.
+        put(x, "sleep 12345");
+        is("back(1)", x.back(1), 10);
+        is("\"sleep 1234\"", x.read(), 1);
+        is("its end", x.place(), 10);
+        put(x, "guard abcdefghi");
+        is("back(1)", x.back(1), 14);
+        is("\"guard abcdefgh\"", x.read(), 1);
+        is("its end", x.place(), 14);
         put(x, "abc");
         is("all of them", x.back(3), 0);
         is("nothing is left", x.read(), 0);
@@ -307,6 +318,16 @@ public final class TextBoundaries extends Checks {
                 text += tokens[i] + " ";
             }
             well(text);
+        }
+        String post = "post p 1 1 1;";
+        for (String text : new String[] {"post^1 1 1;", "post p^;", "post p 1^;", "post p 1 1^;", "post p 1 1 1^post", "^p 1 1 1;",
+            "guard^;", "guard^at p;", "guard g^p;", "guard g at^;", post + "guard g at p^at p;", "damp 1^at", "damp 1^damp;", "sleep^;",
+            "sleep 1^sleep", "flow^1;", "flow =^;", "flow = 1^flow", "flow = if^< 2 then 3 else 4;", "flow = if 1^2 then 3 else 4;",
+            "flow = if 1 <^then 3 else 4;", "flow = if 1 < 2^3 else 4;", "flow = if 1 < 2 then^else 4;", "flow = if 1 < 2 then 3^4;",
+            "flow = if 1 < 2 then 3 else^;", "flow = 1^1 < 2 then 3 else 4;", "flow = (^);", "flow = (1^;", "flow = 1^);",
+            "flow = 1 +^+ 2;", "flow = 1 *^/ 2;", "flow = 1^neck;", "flow = neck^1;"}) {
+            int place = text.indexOf('^');
+            fault(text.replace("^", " "), 1, place == 0 ? 1 : place + 1);
         }
         fault("flow=+1;", 1, 5);
         fault("flow=-1;", 1, 5);
@@ -522,6 +543,32 @@ public final class TextBoundaries extends Checks {
         fault(times("damp;", 197) + "guard g;guard g;", 3, 985 + 14);
     }
 
+    /** TELLS of just so many TOKENS, 2 and more. */
+    private static String tellsOf(int tokens) {
+        return (tokens % 2 == 1 ? "sleep 1;" : "") + times("damp;", (tokens - tokens % 2 * 3) / 2);
+    }
+
+    private static void eachTokenTooMany() {
+        sentence("FAULTS: 2 ROOM: a 401st TOKEN, whichever it is");
+        String[] tokens = ("post p 1 2 3 ; guard g ; guard h at p ; damp 1 2 ; sleep 1 ; flow = 1 ; flow = if neck + 1 < wet * ( 2 - above ) "
+            + "then below / 3 else if minute < post then 1 else 2 ;").split(" ");
+        for (int at = 0; at < tokens.length; at++) {
+            StringBuilder text = new StringBuilder(tellsOf(400 - at));
+            for (int i = 0; i < at; i++) {
+                text.append(tokens[i]).append(' ');
+            }
+            int place = text.length();
+            fault(text + tokens[at], 2, place);
+            for (int i = at; i < tokens.length; i++) {
+                text.append(tokens[i]).append(' ');
+            }
+            fault(text.toString(), 2, place);
+        }
+        String all = String.join(" ", tokens);
+        well(tellsOf(400 - tokens.length) + all);
+        fault(tellsOf(401 - tokens.length) + all, 2, tellsOf(401 - tokens.length).length() + all.length() - 1);
+    }
+
     private static void roomAtFirstToken() {
         sentence("FAULTS: a 9th post, a 13th guard (at its first TOKEN), a 25th number of a damp (at it)");
         String text = posts(8) + guards(12);
@@ -614,6 +661,12 @@ public final class TextBoundaries extends Checks {
         is("the last post", x.guard(0, 0), 7);
         put(x, "guard g at ph;");
         is("of the text ahead", x.read(), 4);
+        for (int post = 7; post >= 1; post--) {
+            String text = posts(post) + "guard g at p" + (char) ('a' + post) + ";";
+            put(x, text);
+            is("of the text ahead, not of this one", x.read(), 4);
+            is("its place", x.place(), text.length() - 3);
+        }
     }
 
     private static void wrongNumbers() {
@@ -649,6 +702,23 @@ public final class TextBoundaries extends Checks {
         }
     }
 
+    private static void faultIsForgotten() {
+        sentence("FAULTS: A text with a FAULT changes nothing: what it told is in no other text");
+        SandGuards x = new SandGuards();
+        for (int i = 0; i < 30; i++) {
+            put(x, "guard g;flow=2*(3+4/(5-");
+            is("broken", x.read(), 1);
+        }
+        put(x, "post g 999 0 0;flow=if neck<1 then 40-2*3 else 5;");
+        is("well", x.read(), 0);
+        is("flow", x.post(0, 5), 34);
+        put(x, "guard g at a;damp 7;sleep 9;");
+        is("broken", x.read(), 4);
+        put(x, "guard g;post a 999 0 7;");
+        is("well", x.read(), 0);
+        same("the last one alone", state(x), "1,1,0,1,1,60,0,999,0,0,0,0,0;999,0,-2,0,0,7,0;-2,0,0,0,0;");
+    }
+
     /** Where a guard of the castle above is so many minutes later, if no text comes between. */
     private static int goneOn(int guard, int minutes) {
         SandGuards x = told(RING + "damp 1 2;flow=neck+wet;");
@@ -682,6 +752,12 @@ public final class TextBoundaries extends Checks {
             is("restore(" + slot + ")", x.restore(slot), false);
         }
         is("forget", x.forget(), 0);
+        // The longest law there can be, text by text: it takes its room anew each time.
+        for (int i = 1; i <= 4; i++) {
+            put(x, "post a 999 0 1;flow=" + i + times("+1", 195) + ";");
+            is("read()", x.read(), 0);
+            is("flow", x.post(0, 5), 195 + i);
+        }
         is("the empty text", x.read(), 0);
         same("the empty text", state(x), "0,0,0,0,0,60,0,0,0,0,0,0,0;");
         is("no post", x.post(0, 0), NONE);
