@@ -422,6 +422,7 @@ public final class TextBoundaries extends Checks {
         is("not told", x.post(0, 5), 7);
         is("the last one", told("flow=1;post a 999 0 7;flow=2;damp;flow=if 1<2 then 3 else 4;").post(0, 5), 3);
         is("the last one", told("post a 999 0 7;flow=if 1<2 then 3 else 4;flow=neck+1;").post(0, 5), 8);
+        is("nothing of the one ahead", told("post a 999 0 7;flow=if 2<1 then 3 else 4;flow=8/2+1;").post(0, 5), 5);
     }
 
     private static void mostDamp() {
